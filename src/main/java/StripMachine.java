@@ -173,7 +173,12 @@ public final class StripMachine {
 
     public int step(int word) {
         current.take(word);
-        int answer = perform();
+        int answer = ILLEGAL;
+        if (current.code == CODE_LOAD || current.code == CODE_STORE) {
+            answer = port.execute(current);
+        } else if (current.code == CODE_VECTOR) {
+            answer = current.form == FORM_SET ? lengthUnit.execute(current) : lanes.execute(current);
+        }
         if (answer == DONE) {
             now.start = 0;
             doneCount++;
@@ -276,18 +281,6 @@ public final class StripMachine {
             total = 31 * total + now.vectors[k];
         }
         return total;
-    }
-
-    private int perform() {
-        switch (current.code) {
-            case CODE_LOAD:
-            case CODE_STORE:
-                return port.execute(current);
-            case CODE_VECTOR:
-                return current.form == FORM_SET ? lengthUnit.execute(current) : lanes.execute(current);
-            default:
-                return ILLEGAL;
-        }
     }
 
     private static long ones(int bits) {
@@ -428,12 +421,15 @@ public final class StripMachine {
         int eew;
         int eighths;
         int registers;
+        private long full;
 
+        /** At first it is v0 as a mask. */
         Group(Registers owner) {
             this.owner = owner;
             eew = MASK_EEW;
             eighths = WHOLE;
             registers = 1;
+            full = 1;
         }
 
         void cover(int number, int width, int multiple) {
@@ -441,6 +437,7 @@ public final class StripMachine {
             eew = width;
             eighths = multiple;
             registers = multiple > WHOLE ? multiple / WHOLE : 1;
+            full = ones(width);
         }
 
         boolean isLegal() {
@@ -472,7 +469,7 @@ public final class StripMachine {
             if (at < 0 || at >= VECTOR_WORDS) {
                 return 0;
             }
-            return (owner.vectors[at] >>> (bit & 31)) & ones(eew);
+            return (owner.vectors[at] >>> (bit & 31)) & full;
         }
 
         void put(int i, long value) {
@@ -481,7 +478,7 @@ public final class StripMachine {
             if (at < 0 || at >= VECTOR_WORDS) {
                 return;
             }
-            int place = (int) ones(eew) << (bit & 31);
+            int place = (int) full << (bit & 31);
             int moved = (int) value << (bit & 31);
             owner.vectors[at] = (owner.vectors[at] & ~place) | (moved & place);
         }
@@ -492,16 +489,14 @@ public final class StripMachine {
             }
         }
 
-        void leaveOpenFrom(int from) {
+        /** The elements from a number on are the tail, of this or of a mask's bytes. */
+        void leaveTail(int from, boolean isOfMask) {
+            if (!isOfMask && !owner.type.tailOpen) {
+                return;
+            }
             int end = capacity();
             for (int i = from; i < end; i++) {
                 leaveOpen(i);
-            }
-        }
-
-        void leaveTail(int from) {
-            if (eew == MASK_EEW || owner.type.tailOpen) {
-                leaveOpenFrom(from);
             }
         }
     }
@@ -564,7 +559,7 @@ public final class StripMachine {
 
     /** vsetvli, vsetivli, vsetvl. */
     private static final class LengthUnit {
-        private static final long NO_END = Long.MAX_VALUE;
+        private static final long NO_END = 1L << 32;
         private static final long STAYS = -1;
 
         private final Registers now;
@@ -768,10 +763,20 @@ public final class StripMachine {
     /** What becomes of single elements; a is of vs2, b the second one, d of vd, all without sign. */
     private static final class Alu {
         private final Registers now;
-        int sew;
+        private int sew;
+        private long greatest;
+        private long greatestSigned;
+        private long leastSigned;
 
         Alu(Registers now) {
             this.now = now;
+        }
+
+        void setWidth(int width) {
+            sew = width;
+            greatest = ones(width);
+            greatestSigned = greatest >> 1;
+            leastSigned = -greatestSigned - 1;
         }
 
         long result(int operation, long a, long b, long d) {
@@ -872,12 +877,12 @@ public final class StripMachine {
             long sa = signed(a, sew);
             long sb = signed(b, sew);
             switch (operation) {
-                case VSADDU: return clippedUnsigned(a + b);
-                case VSADD: return clippedSigned(sa + sb);
-                case VSSUBU: return clippedUnsigned(a - b);
-                case VSSUB: return clippedSigned(sa - sb);
+                case VSADDU: return clipped(a + b, 0, greatest);
+                case VSADD: return clipped(sa + sb, leastSigned, greatestSigned);
+                case VSSUBU: return clipped(a - b, 0, greatest);
+                case VSSUB: return clipped(sa - sb, leastSigned, greatestSigned);
                 case VSLL: return a << shift;
-                case VSMUL_OR_MOVE: return clippedSigned(rounded(sa * sb, sew - 1));
+                case VSMUL_OR_MOVE: return clipped(rounded(sa * sb, sew - 1), leastSigned, greatestSigned);
                 case VSRL: return a >>> shift;
                 case VSRA: return sa >> shift;
                 case VSSRL: return rounded(a, shift);
@@ -892,8 +897,8 @@ public final class StripMachine {
             switch (operation) {
                 case VNSRL: return a >>> shift;
                 case VNSRA: return sa >> shift;
-                case VNCLIPU: return clippedUnsigned(rounded(a, shift));
-                case VNCLIP: return clippedSigned(rounded(sa, shift));
+                case VNCLIPU: return clipped(rounded(a, shift), 0, greatest);
+                case VNCLIP: return clipped(rounded(sa, shift), leastSigned, greatestSigned);
                 default: return 0;
             }
         }
@@ -913,14 +918,14 @@ public final class StripMachine {
         private long quotient(int operation, long a, long b) {
             long sa = signed(a, sew);
             long sb = signed(b, sew);
-            if (sb == 0) {
+            if (b == 0 || sb == 0) {
                 return operation == VDIVU || operation == VDIV ? -1 : a;
             }
             // The least by -1 needs no care: in 64 bits its quotient has room, and is cut to itself.
             switch (operation) {
-                case VDIVU: return b == 0 ? -1 : a / b;
+                case VDIVU: return a / b;
                 case VDIV: return sa / sb;
-                case VREMU: return b == 0 ? a : a % b;
+                case VREMU: return a % b;
                 case VREM: return sa % sb;
                 default: return 0;
             }
@@ -973,21 +978,12 @@ public final class StripMachine {
             }
         }
 
-        private long clippedUnsigned(long value) {
-            return clipped(value, 0, ones(sew));
-        }
-
-        private long clippedSigned(long value) {
-            long greatest = ones(sew - 1);
-            return clipped(value, -greatest - 1, greatest);
-        }
-
-        private long clipped(long value, long least, long greatest) {
-            if (value >= least && value <= greatest) {
+        private long clipped(long value, long least, long most) {
+            if (value >= least && value <= most) {
                 return value;
             }
             now.saturated = 1;
-            return value < least ? least : greatest;
+            return value < least ? least : most;
         }
 
         private long rounded(long value, int shift) {
@@ -998,9 +994,9 @@ public final class StripMachine {
             long lost = value & ones(shift);
             long half = 1L << (shift - 1);
             switch (now.rounding) {
-                case 0: return kept + bit(lost >= half);
-                case 1: return kept + bit(lost > half || lost == half && (kept & 1) == 1);
-                case 3: return kept | bit(lost != 0);
+                case 0: return lost >= half ? kept + 1 : kept;
+                case 1: return lost > half || lost == half && (kept & 1) == 1 ? kept + 1 : kept;
+                case 3: return lost != 0 ? kept | 1 : kept;
                 default: return kept;
             }
         }
@@ -1079,7 +1075,7 @@ public final class StripMachine {
             selector = in.rs1;
             length = now.length;
             isMasked = in.masked;
-            alu.sew = now.type.sew;
+            alu.setWidth(now.type.sew);
             passed = 0;
             // Shifts ask for their number without sign, but its lowest five bits, all they use, are the same with it.
             long number = in.takesNumber() ? signed(in.rs1, 5) : now.scalar(in.rs1);
@@ -1175,23 +1171,25 @@ public final class StripMachine {
                 return DONE;
             }
             if (kind == COMPRESS) {
-                target.leaveTail(compressed());
+                target.leaveTail(compressed(), false);
                 return DONE;
             }
-            long from = kind == SLIDE_UP ? Math.max(now.start, offset) : now.start;
-            for (long i = from; i < length; i++) {
-                runElement((int) i);
+            for (int i = firstElement(); i < length; i++) {
+                if (isActive(i)) {
+                    target.put(i, valueAt(i));
+                } else if (now.type.maskedOpen) {
+                    target.leaveOpen(i);
+                }
             }
-            target.leaveTail(length);
+            target.leaveTail(length, target.eew == MASK_EEW);
             return DONE;
         }
 
-        private void runElement(int i) {
-            if (isActive(i)) {
-                target.put(i, valueAt(i));
-            } else if (now.type.maskedOpen) {
-                target.leaveOpen(i);
+        private int firstElement() {
+            if (kind == SLIDE_UP && offset > now.start) {
+                return (int) Math.min(offset, length);
             }
+            return now.start;
         }
 
         private boolean isActive(int i) {
@@ -1299,7 +1297,7 @@ public final class StripMachine {
                 }
             }
             target.put(0, total);
-            target.leaveTail(1);
+            target.leaveTail(1, false);
             return DONE;
         }
 
@@ -1327,7 +1325,7 @@ public final class StripMachine {
             target.cover(in.rd, now.type.sew, WHOLE);
             if (now.start < length) {
                 target.put(0, second);
-                target.leaveTail(1);
+                target.leaveTail(1, false);
             }
             return DONE;
         }
@@ -1347,7 +1345,7 @@ public final class StripMachine {
         private boolean isMasked;
         private boolean isIndexed;
         private boolean isFirstOnly;
-        private boolean isTailOpen;
+        private boolean isMaskBytes;
         int trapAddress;
 
         Port(Registers now, Memory memory) {
@@ -1385,7 +1383,7 @@ public final class StripMachine {
             isMasked = in.masked;
             isIndexed = false;
             isFirstOnly = false;
-            isTailOpen = false;
+            isMaskBytes = false;
         }
 
         private boolean cover(Instruction in, int eew) {
@@ -1425,7 +1423,7 @@ public final class StripMachine {
                 case 11:
                     data.cover(in.rd, 8, WHOLE);
                     length = (now.length + 7) / 8;
-                    isTailOpen = true;
+                    isMaskBytes = true;
                     return eew == 8 && !isMasked;
                 case 16:
                     isFirstOnly = true;
@@ -1469,7 +1467,9 @@ public final class StripMachine {
                     return TRAP;
                 }
             }
-            finishTail();
+            if (!isStore) {
+                data.leaveTail(length, isMaskBytes);
+            }
             return DONE;
         }
 
@@ -1492,15 +1492,5 @@ public final class StripMachine {
             }
         }
 
-        private void finishTail() {
-            if (isStore) {
-                return;
-            }
-            if (isTailOpen) {
-                data.leaveOpenFrom(length);
-            } else {
-                data.leaveTail(length);
-            }
-        }
     }
 }

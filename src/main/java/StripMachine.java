@@ -990,9 +990,9 @@ public final class StripMachine {
             if (shift < 1) {
                 return value;
             }
-            long kept = value >> shift;
-            long lost = value & ones(shift);
             long half = 1L << (shift - 1);
+            long kept = value >> shift;
+            long lost = value & (2 * half - 1);
             switch (now.rounding) {
                 case 0: return lost >= half ? kept + 1 : kept;
                 case 1: return lost > half || lost == half && (kept & 1) == 1 ? kept + 1 : kept;

@@ -659,7 +659,7 @@ public final class StripMachine {
             V + REDUCE, V + REDUCE, V + REDUCE, V + REDUCE,
             VX + PLAIN, VX + PLAIN, VX + PLAIN, VX + PLAIN,
             0, 0, X + SLIDE_ONE_UP, X + SLIDE_ONE_DOWN,
-            V + READ_SCALAR + X, 0, V + EXTEND, 0,
+            VX + READ_SCALAR, 0, V + EXTEND, 0,
             V + FIRST_BIT, 0, 0, V + COMPRESS,
             V + MASK_LOGIC, V + MASK_LOGIC, V + MASK_LOGIC, V + MASK_LOGIC,
             V + MASK_LOGIC, V + MASK_LOGIC, V + MASK_LOGIC, V + MASK_LOGIC,
@@ -995,7 +995,7 @@ public final class StripMachine {
             long lost = value & (2 * half - 1);
             switch (now.rounding) {
                 case 0: return lost >= half ? kept + 1 : kept;
-                case 1: return lost > half || lost == half && (kept & 1) == 1 ? kept + 1 : kept;
+                case 1: return lost > half || (lost == half && (kept & 1) == 1) ? kept + 1 : kept;
                 case 3: return lost != 0 ? kept | 1 : kept;
                 default: return kept;
             }
@@ -1036,7 +1036,7 @@ public final class StripMachine {
 
         int execute(Instruction in) {
             kind = Decoder.kindOf(in);
-            if (kind == UNKNOWN || now.type.isIll() || now.start != 0 && startsAtZero()) {
+            if (kind == UNKNOWN || now.type.isIll() || (now.start != 0 && startsAtZero())) {
                 return ILLEGAL;
             }
             prepare(in);
@@ -1408,7 +1408,7 @@ public final class StripMachine {
 
         private boolean coverWhole(Instruction in, int eew, int registers) {
             boolean isPower = registers == 1 || registers == 2 || registers == 4 || registers == 8;
-            if (!isPower || isMasked || isStore && eew != 8) {
+            if (!isPower || isMasked || (isStore && eew != 8)) {
                 return false;
             }
             data.cover(in.rd, eew, WHOLE * registers);
@@ -1461,6 +1461,7 @@ public final class StripMachine {
                 } else if (isFirstOnly && i > 0) {
                     now.length = i;
                     length = i;
+                    break;
                 } else {
                     now.start = i;
                     trapAddress = addressOf(i);
@@ -1491,6 +1492,5 @@ public final class StripMachine {
                 data.put(i, memory.load(address, bytes));
             }
         }
-
     }
 }

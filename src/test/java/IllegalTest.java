@@ -192,6 +192,12 @@ public final class IllegalTest {
         for (int[] one : cases) {
             Check.due("masked " + Integer.toHexString(one[0]), answer(8, 0, one[0]), one[1]);
         }
+        for (int vd = 0; vd < 32; vd++) {
+            Check.due("masked vadd to " + vd, answer(8, 0, Asm.op(0, 0, vd, vd, Asm.IVV, vd)), vd == 0 ? 1 : 0);
+            Check.due("masked vle8 to " + vd, answer(8, 0, Asm.load(8, Asm.UNIT, 0, 0, 1, vd)), vd == 0 ? 1 : 0);
+            Check.due("masked vse8 of " + vd, answer(8, 0, Asm.store(8, Asm.UNIT, 0, 0, 1, vd)), 0);
+            Check.due("masked vmseq to " + vd, answer(8, 0, Asm.op(24, 0, vd, vd, Asm.IVV, vd)), 0);
+        }
     }
 
     /** vd, vs2, vs1 of all numbers, for operations of all widths; -1: there is none, 0: the rule of reductions. */
@@ -224,6 +230,11 @@ public final class IllegalTest {
                 pairs(s, "vrgather.vi", Asm.op(12, 1, 0, 0, Asm.IVI, 0), sew, sew, -1, true);
                 pairs(s, "vrgatherei16", Asm.op(14, 1, 0, 0, Asm.IVV, 0), sew, sew, 16, true);
                 pairs(s, "vcompress", Asm.op(23, 1, 0, 0, Asm.MVV, 0), sew, sew, 1, true);
+                singles(s, "vid", Asm.op(20, 1, 0, 17, Asm.MVV, 0), sew);
+                singles(s, "vmv.v.i", Asm.op(23, 1, 0, 3, Asm.IVI, 0), sew);
+                singles(s, "vmsbf of v24", Asm.op(20, 1, 24, 1, Asm.MVV, 0), 1, 24);
+                singles(s, "vmsof of v24", Asm.op(20, 1, 24, 2, Asm.MVV, 0), 1, 24);
+                singles(s, "vmsif of v24", Asm.op(20, 1, 24, 3, Asm.MVV, 0), 1, 24);
                 for (int eew = 8; eew <= 32; eew *= 2) {
                     pairs(s, "vluxei" + eew, Asm.load(eew, Asm.UNORDERED, 1, 0, 1, 0), sew, eew, -1, false);
                     singles(s, "vle" + eew, Asm.load(eew, Asm.UNIT, 1, 0, 1, 0), eew);
@@ -256,8 +267,12 @@ public final class IllegalTest {
     }
 
     private static void singles(Setup s, String name, int word, int eew) {
+        singles(s, name, word, eew, -1);
+    }
+
+    private static void singles(Setup s, String name, int word, int eew, int except) {
         for (int number = 0; number < 32; number++) {
-            ask(s, name, word | number << 7, stands(s, number, eew));
+            ask(s, name, word | number << 7, stands(s, number, eew) && number != except);
         }
     }
 

@@ -16,6 +16,7 @@ public final class IllegalEdgesTest {
         numberOfAGroup();
         numberByItsOwnEmul();
         numberOfSingles();
+        numbersOfNoRegister();
         numberOfWholes();
         eewAbove32();
         eewBelow8();
@@ -256,6 +257,20 @@ public final class IllegalEdgesTest {
         String sentence = "Single elements and masks, whatever LMUL is";
         done(sentence, "e8, m8", "vmv.x.s x3, v9", "vmv.x.s x3, v31", "vmv.s.x v9, x3", "vmv.s.x v31, x3", "vcpop.m x3, v9",
             "vfirst.m x3, v31");
+    }
+
+    /** Bits 19 .. 15 of these, or 24 .. 20, choose an operation or hold a number. */
+    private static void numbersOfNoRegister() {
+        String sentence = "A destination group that has a register of a source group: these are no registers";
+        done(sentence, "e32, m1", "vzext.vf4 v4, v16", "vsext.vf4 v5, v16", "vzext.vf2 v6, v16", "vsext.vf2 v7, v16",
+            "vadd.vi v9, v16, 9", "vslideup.vi v9, v16, 9", "vrgather.vi v9, v16, 9", "vslideup.vx v9, v16, x9",
+            "vslide1up.vx v9, v16, x9", "vrgather.vx v9, v16, x9", "vle8.v v1, (x1)", "vlse8.v v1, (x1), x1");
+        done(sentence, "e32, m8", "vzext.vf4 v0, v16", "viota.m v16, v8", "vid.v v16", "vid.v v0", "vmv.v.i v0, 1",
+            "vmv.v.x v0, x1", "vmv.v.v v0, v16", "vadd.vx v8, v16, x9", "vadd.vi v8, v16, 9", "vslideup.vi v8, v16, 9",
+            "vslide1up.vx v8, v16, x9", "vrgather.vx v8, v16, x9", "vmseq.vi v9, v16, 8", "vmseq.vx v9, v16, x8",
+            "vmadc.vx v9, v16, x8", "vle32.v v0, (x1)", "vlse32.v v0, (x1), x1", "vle32ff.v v16, (x1)");
+        done(sentence, "e8, m1", "vmsbf.m v1, v16", "vmsof.m v2, v16", "vmsif.m v3, v16", "viota.m v16, v8", "vid.v v17",
+            "vwadd.vx v8, v16, x8", "vlm.v v11, (x1)", "vmv1r.v v0, v16", "vmv2r.v v0, v16");
     }
 
     private static void numberOfWholes() {

@@ -310,7 +310,7 @@ public final class MaskEdgesTest {
     private static void writeOne() {
         String sentence = "vmv.s.x (element 0; the rest of the register is TAIL)";
         Bench open = new Bench(sentence + ": ta", "e16, m8, ta, mu", 9);
-        open.choose(0b10000010);
+        open.choose(~0b01111100L);
         open.fill(8, 3, OLD);
         open.x(3, 0x12348001);
         open.does("vmv.s.x v9, x3");

@@ -22,6 +22,7 @@ public final class MemoryEdgesTest {
         trapOfAStore();
         trapAtElementZero();
         trapWithMask();
+        maskedOff();
         trapOfIndices();
         goesOnFromStart();
         latestTrap();
@@ -382,6 +383,37 @@ public final class MemoryEdgesTest {
         t.row(8, 32, 9, -1, -1, 4);
     }
 
+    private static void maskedOff() {
+        for (String text : new String[] {"vle16.v v8, (x0), v0.t", "vlse16.v v8, (x0), x2, v0.t", "vluxei16.v v8, (x0), v16, v0.t",
+            "vle16ff.v v8, (x0), v0.t"}) {
+            for (String policy : new String[] {"mu", "ma"}) {
+                Bench t = new Bench("Elements that are masked off, of a load: " + text, "e16, m1, tu, " + policy, 4);
+                t.choose(~0b0100);
+                count(t, 2);
+                t.x(2, 2);
+                t.fill(8, 1, OLD);
+                t.put(16, 16, 0, 2, 4, 6);
+                t.put(0, 8, 0b0010);
+                t.does(text);
+                int open = policy.equals("ma") ? -1 : 0x5555;
+                t.row(8, 16, open, 0x0403, 0x5555, open, 0x5555);
+            }
+        }
+        for (String text : new String[] {"vse16.v v8, (x0), v0.t", "vsse16.v v8, (x0), x2, v0.t", "vsuxei16.v v8, (x0), v16, v0.t"}) {
+            Bench t = new Bench("Elements that are masked off, of a store: no register changes: " + text, "e16, m1, ta, ma", 4);
+            t.choose(-1);
+            t.x(2, 2);
+            t.word(1, 0x01010101);
+            t.fill(8, 1, OLD);
+            t.put(16, 16, 0, 2, 4, 6);
+            t.put(0, 8, 0b0010);
+            t.does(text);
+            t.rowIs(8, 1, OLD);
+            t.isWord(0, 0x55550000);
+            t.isWord(1, 0x01010101);
+        }
+    }
+
     private static void trapOfIndices() {
         Bench t = new Bench("TRAP: VSTART is its number, whatever way it goes", "e8, m1, tu, mu", 4);
         count(t, 2);
@@ -534,7 +566,7 @@ public final class MemoryEdgesTest {
     private static void maskBytesTail() {
         for (String policy : new String[] {"tu", "ta"}) {
             Bench t = new Bench("vlm (EEW 8, EMUL 1, TAIL left open)", "e32, mu, m8, " + policy, 9);
-            t.choose(0b1000000000010111);
+            t.choose(~0b0111111111101000L);
             t.fill(8, 3, OLD);
             t.does("vlm.v v9, (x0)");
             t.row(9, 8, 0, 0, 0xFF, OLD, 0xFF, OLD, OLD, OLD, OLD, OLD, OLD, OLD, OLD, OLD, OLD, 0xFF);

@@ -175,6 +175,15 @@ public final class NumberEdgesTest {
         due("vmin", ones, 0, ones);
         due("vmaxu", ones, 0, ones);
         due("vmax", ones, 0, 0);
+        sentence = "vminu vmin vmaxu vmax VX: the other way round";
+        due("vminu", most, least, most);
+        due("vmin", most, least, least);
+        due("vmaxu", most, least, least);
+        due("vmax", most, least, most);
+        due("vminu", 0, ones, 0);
+        due("vmin", 0, ones, ones);
+        due("vmaxu", 0, ones, ones);
+        due("vmax", 0, ones, 0);
         due("vmin", 5, 5, 5);
     }
 
@@ -372,6 +381,7 @@ public final class NumberEdgesTest {
         due("vsaddu", 1, ones, ones, SATURATION);
         due("vsaddu", ones - 1, 1, ones);
         due("vsaddu", 0, ones, ones);
+        due("vsaddu", 0, 0, 0);
         due("vsaddu", most, 1, least);
         due("vsadd", most, 1, most, SATURATION);
         due("vsadd", most, most, most, SATURATION);

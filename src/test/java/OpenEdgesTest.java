@@ -17,6 +17,7 @@ public final class OpenEdgesTest {
         tailIsOpen();
         tailOfAFraction();
         tailOfItsOwnWidth();
+        policiesOfAllTypes();
         noTailAtVlmax();
         tailOfMasks();
         maskedOff();
@@ -149,6 +150,26 @@ public final class OpenEdgesTest {
         indexed.row(8, 16, 0, 0, 0);
         indexed.rowIs(8, 16, 3, 16, -1);
         indexed.rowIs(10, 1, OLD);
+    }
+
+    private static void policiesOfAllTypes() {
+        String[] types = {
+            "e8, mf4", "e8, mf2", "e8, m1", "e8, m2", "e8, m4", "e8, m8", "e16, mf2", "e16, m1", "e16, m2", "e16, m4",
+            "e16, m8", "e32, m1", "e32, m2", "e32, m4", "e32, m8",
+        };
+        for (String type : types) {
+            for (String policies : new String[] {"tu, mu", "ta, mu", "tu, ma", "ta, ma"}) {
+                Bench t = new Bench("TA is bit 6, MA bit 7, whatever SEW and LMUL are: " + type, type + ", " + policies, 2);
+                int sew = Integer.parseInt(type.substring(1, type.indexOf(',')));
+                t.choose(-1);
+                t.put(0, 8, 0b01);
+                t.fill(8, 1, OLD);
+                t.does("vadd.vi v8, v16, 1, v0.t");
+                t.row(8, sew, 1);
+                t.rowIs(8, sew, 1, 2, policies.endsWith("ma") ? -1 : 0x55555555);
+                t.rowIs(8, sew, 2, 128 / sew, policies.startsWith("ta") ? -1 : 0x55555555);
+            }
+        }
     }
 
     private static void noTailAtVlmax() {

@@ -340,5 +340,11 @@ public final class MaskEdgesTest {
         t.type("e32, m1, tu, mu", 0);
         t.does("vmv.s.x v8, x3");
         t.row(8, 32, -7, 0, 0, 0);
+        Bench rest = new Bench("vmv.s.x: the rest of the register is TAIL, ahead of VSTART, too", "e32, m1, ta, mu", 4);
+        rest.choose(0b0111);
+        rest.x(3, -7);
+        rest.set(Bench.VSTART, 3);
+        rest.does("vmv.s.x v8, x3");
+        rest.row(8, 32, -7, -1, -1, 0);
     }
 }

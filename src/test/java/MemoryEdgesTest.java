@@ -34,6 +34,7 @@ public final class MemoryEdgesTest {
         maskBytes();
         maskBytesTail();
         maskBytesFromStart();
+        maskBytesBeyondThem();
         maskBytesTrap();
         wholes();
         wholesFromStart();
@@ -588,6 +589,23 @@ public final class MemoryEdgesTest {
         t.does("vsm.v v9, (x1)");
         t.isWord(16, 0x04000000);
         t.isWord(17, 0);
+    }
+
+    private static void maskBytesBeyondThem() {
+        Bench t = new Bench("vlm vsm: VSTART not below the number of their bytes, though below VL", "e8, m8, ta, ma", 30);
+        t.choose(-1);
+        count(t, 4);
+        for (int start : new int[] {4, 5, 29}) {
+            t.fill(9, 1, OLD);
+            t.set(Bench.VSTART, start);
+            t.does("vlm.v v9, (x0)");
+            t.rowIs(9, 1, OLD);
+            t.is(Bench.VSTART, 0);
+            t.set(Bench.VSTART, start);
+            t.x(1, 2000);
+            t.does("vsm.v v9, (x1)");
+            t.is(Bench.VSTART, 0);
+        }
     }
 
     private static void maskBytesTrap() {

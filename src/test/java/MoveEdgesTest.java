@@ -71,6 +71,9 @@ public final class MoveEdgesTest {
         Bench tail = bench("vslideup: by VL; the TAIL is open", "ta, mu", 6);
         tail.does("vslideup.vi v8, v16, 6");
         tail.row(8, 16, 91, 92, 93, 94, 95, 96, -1, -1);
+        Bench beyond = bench("vslideup: by more than VL; the TAIL is open, below that, too", "ta, mu", 3);
+        beyond.does("vslideup.vi v8, v16, 5");
+        beyond.row(8, 16, 91, 92, 93, -1, -1, -1, -1, -1);
     }
 
     private static void slideDown() {

@@ -58,8 +58,13 @@ final class Setup {
         }
     }
 
+    /** 0 if there is no such LMUL. */
+    static int eighthsOfCode(int code) {
+        return code < 4 ? 8 << code : code == 7 ? 4 : code == 6 ? 2 : 0;
+    }
+
     int eighths() {
-        return lmulCode < 4 ? 8 << lmulCode : lmulCode == 7 ? 4 : 2;
+        return eighthsOfCode(lmulCode);
     }
 
     int eighthsOf(int eew) {

@@ -85,7 +85,8 @@ final class Words {
         return bits;
     }
 
-    private static Map<String, Integer> table() {
+    /** The words of arithmetic instructions by their names, all of their operands and vm being 0. */
+    static Map<String, Integer> table() {
         Map<String, Integer> words = new HashMap<>();
         enter(words, OF_I, Asm.IVV, Asm.IVX);
         enter(words, OF_M, Asm.MVV, Asm.MVX);
